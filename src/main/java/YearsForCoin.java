@@ -796,18 +796,22 @@ public final class YearsForCoin {
         }
 
         private boolean fits(int thieves) {
+            int due = 0;
             int openers = 0;
             for (int i = 0; i < entries; i++) {
-                if (what[i] == KEY) {
-                    openers |= 1 << number[i];
-                }
-                if (what[i] == COUNT) {
-                    boolean missing = missingAt(i) > 0;
-                    boolean could = (thieves & openers) != 0;
-                    if (missing != could) {
-                        return false;
-                    }
-                    openers = 0;
+                switch (what[i]) {
+                    case IN: due += number[i]; break;
+                    case OUT: due -= number[i]; break;
+                    case KEY: openers |= 1 << number[i]; break;
+                    default:
+                        boolean missing = due > number[i];
+                        boolean could = (thieves & openers) != 0;
+                        if (missing != could) {
+                            return false;
+                        }
+                        due = number[i];
+                        openers = 0;
+                        break;
                 }
             }
             return true;
@@ -1708,31 +1712,49 @@ public final class YearsForCoin {
         void standing(Bargain of) {
             found = 0;
             sums[0] = 0;
-            deal(of, 0, of.worthOf(of.everybody()));
+            int all = of.worthOf(of.everybody());
+            if (of.parties == 1) {
+                row[0] = all;
+                countRows(1);
+            } else {
+                deal(of, 0, all);
+            }
         }
 
         /** Gives party p each share that leaves no set of parties up to p with less than it is worth. */
         private void deal(Bargain of, int p, int left) {
-            if (!of.hasParty(p)) {
+            if (!of.hasParty(p + 1)) {
                 return;
             }
-            int least = leastShare(of, p);
-            boolean last = p + 1 >= of.parties;
-            for (int share = last ? Math.max(least, left) : least; share <= left; share++) {
+            int least = leastShare(of, p, 1 << p);
+            if (p + 2 == of.parties) {
+                dealToLastTwo(of, p, least, left);
+                return;
+            }
+            for (int share = least; share <= left; share++) {
                 row[p] = share;
-                if (last) {
-                    countRow();
-                } else {
-                    giveShare(p, share);
-                    deal(of, p + 1, left - share);
-                }
+                giveShare(p, share);
+                deal(of, p + 1, left - share);
             }
         }
 
-        private int leastShare(Bargain of, int p) {
+        /** What the one has more, the other has less, so the rows that stand are one stretch of the one's shares. */
+        private void dealToLastTwo(Bargain of, int p, int least, int left) {
+            int last = p + 1;
+            int most = left - leastShare(of, p, 1 << last);
+            boolean together = leastShare(of, p, 1 << p | 1 << last) <= left;
+            if (together && least <= most) {
+                row[p] = least;
+                row[last] = left - least;
+                countRows(most - least + 1);
+            }
+        }
+
+        /** What others must have at least, so that no set of them with parties below p has less than it is worth. */
+        private int leastShare(Bargain of, int p, int others) {
             int least = 0;
             for (int set = 0; set < 1 << p && set < MOST_SETS; set++) {
-                least = Math.max(least, of.worthOf(set | 1 << p) - sums[set]);
+                least = Math.max(least, of.worthOf(set | others) - sums[set]);
             }
             return least;
         }
@@ -1744,11 +1766,11 @@ public final class YearsForCoin {
             }
         }
 
-        private void countRow() {
+        private void countRows(int more) {
             if (found == 0) {
                 System.arraycopy(row, 0, firstRow, 0, MOST_PARTIES);
             }
-            found++;
+            found += more;
         }
 
         int orders(Bargain of) {

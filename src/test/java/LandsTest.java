@@ -7,6 +7,7 @@ public final class LandsTest {
         takes();
         prices();
         days();
+        firstCalls();
         shutTowns();
         tours();
         tourRows();
@@ -115,6 +116,27 @@ public final class LandsTest {
         Check.due("days no town", x.days(0, 6, 0), -1);
         Check.due("days no town", x.days(0, -1, 0), -1);
         Check.due("days no town", x.days(0, 0, -1), -1);
+    }
+
+    /** No call lives on what another one has worked out before it. */
+    private static void firstCalls() {
+        String land = "road 0 1 1;road 1 2 2;poor 2 9 9 9;letter 1 5;";
+        Check.due("reach first", Check.told(0, land).reach(0, 1), 3);
+        Check.due("centre first", Check.told(0, land).centre(0, true), 2);
+        Check.due("round first", Check.told(0, land).round(0, -1), 3);
+        Check.due("tour first", Check.told(0, land).tour(0, 3, 0, -1), 5);
+        YearsForCoin x = Check.told(0, land);
+        Check.tell(x, 0, "towns 2;road 0 1 5;letter 1 5;");
+        for (int i = 0; i < 2; i++) {
+            Check.due("reach by turns", x.reach(0, 1), 3);
+            Check.due("reach by turns", x.reach(1, 1), 1);
+            Check.due("days by turns", x.days(0, 1, 0), 1);
+            Check.due("days by turns", x.days(1, 1, 0), 5);
+            Check.due("centre by turns", x.centre(0, true), 2);
+            Check.due("centre by turns", x.centre(1, true), 5);
+            Check.due("tour by turns", x.tour(0, 9, 0, -1), 5);
+            Check.due("tour by turns", x.tour(1, 9, 0, -1), 0);
+        }
     }
 
     private static void shutTowns() {

@@ -134,7 +134,7 @@ public final class MonthsTest {
         loan(x, 10, 10, 11, 1, 11);
         loan(x, 10, 10, 10, 2, 11);
         for (int bad : new int[] {-1, 1000, MAX, MIN}) {
-            loan(x, bad, 1, 9, -1, -1);
+            loan(x, bad, 0, 99, -1, -1);
         }
         for (int bad : new int[] {-1, 51, MAX, MIN}) {
             loan(x, 9, bad, 9, -1, -1);

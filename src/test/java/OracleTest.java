@@ -27,6 +27,9 @@ public final class OracleTest {
             }
         }
         for (int sort = 0; sort < 4; sort++) {
+            for (String word : Oracle.grammar(sort).keySet()) {
+                askEdges(sort, word, Oracle.grammar(sort).get(word));
+            }
             for (int fault = 0; fault < 5; fault++) {
                 boolean canBe = fault < 3 || fault == 3 && sort < 3 || fault == 4 && (sort == 0 || sort == 3);
                 Check.due("fault " + fault + " of sort " + sort + " came up", SEEN[sort][fault], canBe);
@@ -185,6 +188,23 @@ public final class OracleTest {
         Check.due("text " + text, x.text(sort, -1), read.fault == 0 ? 0 : -1);
         Check.due("fault of " + text, x.fault(0), read.fault);
         Check.due("place in " + text, x.fault(1), read.place);
+    }
+
+    /** Every number of every line: the least and the greatest that may be, and one beyond each. */
+    private static void askEdges(int sort, String word, int[][] ranges) {
+        for (int k = 0; k < ranges.length; k++) {
+            for (int value : new int[] {ranges[k][0] - 1, ranges[k][0], ranges[k][1], ranges[k][1] + 1}) {
+                StringBuilder line = new StringBuilder(word);
+                for (int i = 0; i < ranges.length; i++) {
+                    // A road's two towns are unlike.
+                    line.append(' ').append(i == k ? value : word.equals("road") ? i == 0 ? value % 5 + 1 : value == 1 ? 2 : 1 : ranges[i][0]);
+                }
+                if (value >= 0 && value <= 99) {
+                    askFault(sort, line + ";");
+                    askFault(sort, line + ";" + (sort == 0 ? "towns 6;" : sort == 3 ? "parties 4;" : ""));
+                }
+            }
+        }
     }
 
     private static void askLand(YearsForCoin x, Oracle.Land land) {

@@ -111,6 +111,9 @@ public final class TextsTest {
         Check.faulty(0, "towns;", 1, 5);
         Check.faulty(0, "town 2;", 1, 0);
         Check.faulty(0, "townss 2;", 1, 0);
+        Check.faulty(0, "townsz 2;", 1, 0);
+        Check.faulty(0, "atowns 2;", 1, 0);
+        Check.faulty(0, "z", 1, 0);
         Check.faulty(0, " Towns 2;", 1, 1);
         Check.faulty(0, "towns 2;;", 1, 8);
         Check.faulty(0, "towns 2 2;", 1, 8);
@@ -196,6 +199,7 @@ public final class TextsTest {
     private static void townsNotThere() {
         Check.faulty(0, "road 0 3 1;", 4, 11);
         Check.faulty(0, "road 0 3 1; ", 4, 12);
+        Check.faulty(0, "road 3 0 1;", 4, 11);
         Check.faulty(0, "road 0 3 1;towns 4;", 0, -1);
         Check.faulty(0, "towns 4;road 0 3 1;towns 3;", 4, 27);
         Check.faulty(0, "shut 3;", 4, 7);
@@ -251,10 +255,13 @@ public final class TextsTest {
             Check.due("no land", x.land(land, 0), -1);
         }
         YearsForCoin empty = Check.told(0, "");
+        Check.tell(x, 0, "");
         int[] first = {3, 0, 0, 0, 0, 0};
         for (int what = 0; what < first.length; what++) {
             Check.due("at first " + what, empty.land(0, what), first[what]);
+            Check.due("at first behind another " + what, x.land(1, what), first[what]);
         }
+        Check.due("no road behind another", x.land(1, 101), 0);
         Check.due("no road", empty.land(0, 100 + 6 * 2 + 1), 0);
         Check.due("no town", empty.land(0, 100 + 6 * 2 + 3), -1);
         Check.due("no buyer", empty.land(0, 10), -1);
@@ -322,6 +329,9 @@ public final class TextsTest {
         }
         Check.due("bargain -1", x.bargain(0, -1), -1);
         Check.due("no bargain", x.bargain(1, 0), -1);
+        Check.tell(x, 3, "");
+        Check.due("two at first behind another", x.bargain(1, 0), 2);
+        Check.due("worth nothing behind another", x.bargain(1, 1), 0);
         YearsForCoin empty = Check.told(3, "");
         Check.due("two at first", empty.bargain(0, 0), 2);
         Check.due("worth nothing at first", empty.bargain(0, 3), 0);
