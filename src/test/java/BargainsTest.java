@@ -31,6 +31,14 @@ public final class BargainsTest {
         rows("parties 4;worth 15 10;worth 7 10;worth 11 10;worth 13 10;worth 14 10;", 0);
         rows("parties 4;worth 15 4;worth 14 4;worth 8 1;worth 9 2;", 6, 0, 0, 0, 4);
         rows("parties 2;worth 1 1;", 0);
+        YearsForCoin x = Check.told(3, "worth 3 9;");
+        Check.tell(x, 3, "worth 1 1;");
+        for (int i = 0; i < 2; i++) {
+            Check.due("by turns", x.rows(0, -1), 10);
+            Check.due("by turns", x.rows(1, -1), 0);
+            Check.due("by turns", x.rows(0, 1), 9);
+            Check.due("by turns", x.rows(1, 1), -1);
+        }
     }
 
     private static void fair(YearsForCoin x, int party, int over, int under) {

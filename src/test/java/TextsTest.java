@@ -14,6 +14,7 @@ public final class TextsTest {
         townsNotThere();
         firstFault();
         landAsTold();
+        fullLand();
         laterOnesStrike();
         seasonAsTold();
         ledgerAsTold();
@@ -265,6 +266,28 @@ public final class TextsTest {
         Check.due("no road", empty.land(0, 100 + 6 * 2 + 1), 0);
         Check.due("no town", empty.land(0, 100 + 6 * 2 + 3), -1);
         Check.due("no buyer", empty.land(0, 10), -1);
+    }
+
+    private static void fullLand() {
+        StringBuilder text = new StringBuilder("towns 6;");
+        String[] kinds = {"poor", "knight", "widow", "doubter"};
+        for (int b = 0; b < 8; b++) {
+            text.append(kinds[b % 4] + " " + b % 6 + " " + (20 + b) + " " + (90 - b) + " " + (b + 1) + ";");
+        }
+        for (int l = 0; l < 4; l++) {
+            text.append("letter " + (30 + l) + " " + (50 + l) + ";");
+        }
+        YearsForCoin x = Check.told(0, text.toString());
+        for (int b = 0; b < 8; b++) {
+            int[] due = {b % 4, b % 6, 20 + b, 90 - b, b + 1};
+            for (int row = 0; row < 5; row++) {
+                Check.due("buyer " + b + " " + row, x.land(0, 10 + 10 * row + b), due[row]);
+            }
+        }
+        for (int l = 0; l < 4; l++) {
+            Check.due("years " + l, x.land(0, 60 + l), 30 + l);
+            Check.due("price " + l, x.land(0, 70 + l), 50 + l);
+        }
     }
 
     private static void laterOnesStrike() {
