@@ -89,24 +89,18 @@ public final class YearsForCoin {
     }
 
     public int text(int sort, int at) {
-        told.setFault(0, NONE);
-        if (sort < 0 || sort >= SORTS) {
-            return NO_SUCH;
-        }
-        int there = told.many[sort];
-        boolean further = at == NONE && there < MOST_OF_A_SORT;
-        if (!further && (at < 0 || at >= there)) {
+        int number = told.placeFor(sort, at);
+        if (number == NO_SUCH) {
+            told.takeTape(0, NONE);
             return NO_SUCH;
         }
         reader.readTape(sort);
-        told.length = 0;
-        told.setFault(reader.fault, reader.place);
+        told.takeTape(reader.fault, reader.place);
         if (reader.fault != 0) {
             return NONE;
         }
-        int number = further ? there : at;
         reader.keepAs(sort, number);
-        told.many[sort] = Math.max(there, number + 1);
+        told.many[sort] = Math.max(told.many[sort], number + 1);
         return number;
     }
 
@@ -952,9 +946,21 @@ public final class YearsForCoin {
             }
         }
 
-        void setFault(int newFault, int newPlace) {
+        /** Every text() takes the tape, even one that does not read it. */
+        void takeTape(int newFault, int newPlace) {
+            length = 0;
             fault = newFault;
             place = newPlace;
+        }
+
+        /** The number that a text of a sort would have, NO_SUCH if none may be told there. */
+        int placeFor(int sort, int at) {
+            if (sort < 0 || sort >= SORTS) {
+                return NO_SUCH;
+            }
+            int number = at == NONE ? many[sort] : at;
+            int most = at == NONE ? MOST_OF_A_SORT : many[sort];
+            return number >= 0 && number < most ? number : NO_SUCH;
         }
 
         private boolean has(int sort, int k) {

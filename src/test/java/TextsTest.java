@@ -71,15 +71,13 @@ public final class TextsTest {
         Check.due("text of none", x.text(1, 0), -2);
         Check.due("first", Check.tell(x, 1, "doubt;"), 0);
         Check.due("second", Check.tell(x, 1, "doubt;doubt;"), 1);
+        int[][] none = {{1, -1}, {1, 2}, {1, -2}, {0, 0}, {4, -1}, {4, 0}, {-1, -1}, {1, Integer.MAX_VALUE}, {1, Integer.MIN_VALUE},
+            {Integer.MAX_VALUE, -1}, {Integer.MIN_VALUE, 0}};
+        for (int[] of : none) {
+            takesUnread(x, of[0], of[1]);
+        }
+        Check.due("the first stays", x.deed(0, -1, 0), 1);
         Check.tape(x, "go 9;");
-        Check.due("third", x.text(1, -1), -2);
-        Check.due("fault of -2", x.fault(0), 0);
-        Check.due("place of -2", x.fault(1), -1);
-        Check.due("text(1, 2)", x.text(1, 2), -2);
-        Check.due("text(1, -2)", x.text(1, -2), -2);
-        Check.due("text(4, -1)", x.text(4, -1), -2);
-        Check.due("text(-1, -1)", x.text(-1, -1), -2);
-        Check.due("no text is read with -2", x.end(5), 5);
         Check.due("text(1, 1) with a fault", x.text(1, 1), -1);
         Check.due("fault", x.fault(0), 2);
         Check.due("the tape is taken with a fault", x.end(1), -1);
@@ -98,6 +96,19 @@ public final class TextsTest {
         Check.due("fault 1", x.fault(0), 1);
         Check.due("-2 behind it", x.text(3, 0), -2);
         Check.due("FAULT 0 then", x.fault(0), 0);
+    }
+
+    /** The tape is taken, though no text is read: its fault does not show, and it is empty then. */
+    private static void takesUnread(YearsForCoin x, int sort, int at) {
+        String call = "text(" + sort + ", " + at + ")";
+        Check.tape(x, "oops");
+        Check.due(call, x.text(sort, at), -2);
+        Check.due("fault of " + call, x.fault(0), 0);
+        Check.due("place of " + call, x.fault(1), -1);
+        Check.due("the tape is taken by " + call, x.end(1), -1);
+        Check.due("feed behind " + call, x.feed(0, 0, 0, 0, 0), 20);
+        Check.due("end behind " + call, x.end(0), 0);
+        Check.due("nothing more by " + call, x.count(1), 2);
     }
 
     private static void tokens() {
