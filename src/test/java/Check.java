@@ -4,6 +4,7 @@ import java.nio.charset.StandardCharsets;
 final class Check {
     private static int wrong = 0;
     private static int asked = 0;
+    private static String sentence = "";
 
     private Check() {
     }
@@ -13,9 +14,14 @@ final class Check {
         if (got != want) {
             wrong++;
             if (wrong <= 50) {
-                System.out.println(call + " answered " + got + ", due is " + want);
+                System.out.println(call + " answered " + got + ", due is " + want + sentence);
             }
         }
+    }
+
+    /** The document's sentence that the next answers are held against: it is told with what is wrong. */
+    static void sentence(String words) {
+        sentence = " [" + words + "]";
     }
 
     static void due(String call, boolean got, boolean want) {
@@ -55,12 +61,21 @@ final class Check {
     }
 
     static void faulty(int sort, String text, int fault, int place) {
+        faulty(sort, text.getBytes(StandardCharsets.ISO_8859_1), fault, place);
+    }
+
+    static void faulty(int sort, byte[] bytes, int fault, int place) {
+        String text = new String(bytes, StandardCharsets.ISO_8859_1);
         YearsForCoin x = new YearsForCoin();
-        tape(x, text);
+        tape(x, bytes);
         due("text '" + text + "'", x.text(sort, -1), fault == 0 ? 0 : -1);
         due("fault of '" + text + "'", x.fault(0), fault);
         due("place in '" + text + "'", x.fault(1), place);
         due("count behind '" + text + "'", x.count(sort), fault == 0 ? 1 : 0);
+    }
+
+    static void good(int sort, String text) {
+        faulty(sort, text, 0, -1);
     }
 
     static void exit(String name) {
