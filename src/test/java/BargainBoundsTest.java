@@ -35,6 +35,7 @@ public final class BargainBoundsTest {
         for (int p = 0; p < 6; p++) {
             Check.due("share " + p + " of " + text, x.rows(0, p), p < first.length ? first[p] : -1);
         }
+        Check.due("rows of " + text + " once more", x.rows(0, -1), many);
     }
 
     private static void rowsOfOneParty() {

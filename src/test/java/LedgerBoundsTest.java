@@ -20,6 +20,8 @@ public final class LedgerBoundsTest {
         everyOpener();
         sureAndClear();
         kthOfSeveral();
+        takenOutIsNotMissing();
+        thievesOfAFullLedger();
         noSuchThieves();
         Check.exit("LedgerBoundsTest");
     }
@@ -205,6 +207,33 @@ public final class LedgerBoundsTest {
         for (int k = 0; k < 70; k++) {
             Check.due("the " + k + "-th", x.thieves(0, 10 + k), k < 3 ? sets[k] : -2);
         }
+    }
+
+    private static void takenOutIsNotMissing() {
+        Check.sentence("terms 4: out: so many coins are told to be .. taken out");
+        for (int found = 0; found <= 12; found++) {
+            boolean missing = found < 6;
+            thieves("in 9;out 3;key 4;count " + found + ";", 32, missing ? 16 : 0, missing ? 0 : 16);
+            thieves("count 9;out 3;key 4;count " + found + ";", 32, missing ? 16 : 0, missing ? 0 : 16);
+        }
+        thieves("out 3;key 4;count 0;", 32, 0, 16);
+    }
+
+    private static void thievesOfAFullLedger() {
+        Check.sentence("terms 1: ENTRIES, at most 20; terms 4: if for each count");
+        thieves("key 0;".repeat(20), 64, 0, 0);
+        thieves("count 0;".repeat(20), 64, 0, 0);
+        thieves("key 5;".repeat(19) + "count 0;", 32, 0, 32);
+        thieves("in 1;key 5;count 0;key 4;count 0;" + "in 1;key 5;count 0;".repeat(5), 16, 32, 16);
+        // A ledger in the place of a fuller one has nothing of it.
+        YearsForCoin x = Check.told(2, "in 1;key 5;count 0;" + "in 1;count 0;".repeat(8));
+        Check.due("nothing fits", x.thieves(0, 0), 0);
+        Check.due("nine times", x.opened(0, false), 9);
+        Check.tape(x, "in 1;key 5;count 0;");
+        Check.due("anew", x.text(2, 0), 0);
+        Check.due("half of them fit", x.thieves(0, 0), 32);
+        Check.due("once", x.opened(0, false), 1);
+        Check.due("no fourth", x.entry(0, 3, 0), -2);
     }
 
     private static void noSuchThieves() {

@@ -235,6 +235,15 @@ public final class PurseBoundsTest {
             }
             coins = more;
         }
+        Check.sentence("terms 3: the first row by numbers; 15: what to do in month k");
+        for (int n = 1; n <= 20; n++) {
+            int now = n % 10;
+            for (int k = 0; k < n; k++) {
+                int deed = x.plan(n % 10, n, k);
+                Check.due("month " + k + " of " + n, deed, x.plan(now, n - k, 0));
+                now = deed == 0 ? Math.max(0, now - 1) : deed == 1 ? Math.min(9, now + 1) : now / 2;
+            }
+        }
     }
 
     private static void withinNumbers() {

@@ -76,6 +76,10 @@ public final class RulesTest {
         for (Class<?> one : inside) {
             Check.due("static: " + one, Modifier.isStatic(one.getModifiers()), true);
             none("public: " + one, Modifier.isPublic(one.getModifiers()));
+            for (Method inner : one.getDeclaredMethods()) {
+                boolean hidden = Modifier.isPrivate(inner.getModifiers());
+                none("private with a public name: " + inner, hidden && (";" + FACE).matches(".*[; ]" + inner.getName() + "\\(.*"));
+            }
             int fields = 0;
             for (Field field : one.getDeclaredFields()) {
                 if (Modifier.isStatic(field.getModifiers())) {

@@ -30,6 +30,8 @@ public final class SeasonBoundsTest {
         drawnOfEverySeed();
         drawnYears();
         drawnWithoutAny();
+        drawnSales();
+        askedTwice();
         payer();
         half();
         ahead();
@@ -482,6 +484,46 @@ public final class SeasonBoundsTest {
         for (int seed = 0; seed < 300; seed++) {
             int day = far.drawn(0, seed, 60, 0);
             Check.due("not behind day 99", day <= 99 && day % 9 == 0, true);
+        }
+    }
+
+    private static void drawnSales() {
+        Check.sentence("terms 4: 1 to 4: sell, a BUYER, below BUYERS, a LETTER, below LETTERS; each, if it may");
+        YearsForCoin x = Check.told(0, "bank 5;ruler 2;poor 0 9 30 9;knight 0 0 10 9;poor 1 9 30 9;letter 2 10;letter 3 11;");
+        for (int which = 0; which < 8; which++) {
+            for (int b = 0; b < 3; b++) {
+                for (int l = 0; l < 2; l++) {
+                    int seed = seedThat(8, which, 3, b, 2, l);
+                    // The third lives elsewhere, the second has not so many coins.
+                    boolean sold = which >= 1 && which <= 4 && b < 2 && (b == 0 || l == 0);
+                    int price = sold ? 10 + l : 0;
+                    Check.due("sold by " + which, x.drawn(0, seed, 1, 3), sold ? 1 : 0);
+                    Check.due("bank", x.drawn(0, seed, 1, 4), price / 2);
+                    Check.due("ruler", x.drawn(0, seed, 1, 5), price / 5);
+                    Check.due("church", x.drawn(0, seed, 1, 6), price - price / 2 - price / 5);
+                    Check.due("bought", x.drawn(0, seed, 1, 40 + b), sold ? 2 + l : 0);
+                    Check.due("means", x.drawn(0, seed, 1, 20 + b), (b == 1 ? 10 : 30) - price);
+                }
+            }
+        }
+    }
+
+    private static void askedTwice() {
+        Check.sentence("terms 2: A SEASON of a LAND begins .. all as told");
+        YearsForCoin x = both("bank 3;ruler 2;road 0 1 4;knight 0 9 99 9;letter 5 10;", "sell 0 0;doubt;sin 0 3;sell 0 0;jubilee;shut 2;go 1;");
+        int[] due = {4, 1, 4, 2, 6, 4, 10};
+        for (int times = 0; times < 3; times++) {
+            for (int what = 0; what < due.length; what++) {
+                Check.due("state " + what, x.state(0, 0, 7, what), due[what]);
+                Check.due("nothing is drawn " + what, x.drawn(0, 5, 0, what), 0);
+                Check.due("at first " + what, x.state(0, 0, 0, what), 0);
+            }
+            Check.due("owes", x.state(0, 0, 7, 10), 12);
+            Check.due("means", x.state(0, 0, 7, 20), 79);
+            Check.due("fear", x.state(0, 0, 7, 30), 7);
+            Check.due("bought", x.state(0, 0, 4, 40), 10);
+            Check.due("owes at first", x.state(0, 0, 0, 10), 9);
+            Check.due("half", x.after(0, 0, 1), 1);
         }
     }
 

@@ -262,6 +262,16 @@ public final class TextBoundsTest {
         }
         Check.good(0, "shut 2;");
         Check.faulty(0, "shut 3;", 4, 7);
+        // Whatever is told of behind it, one TOWN that is not there is enough.
+        String[] lines = {"shut #;", "poor # 0 0 0;", "road 1 # 1;", "road # 1 1;"};
+        for (String one : lines) {
+            for (String other : lines) {
+                int end = one.length() + other.length();
+                Check.faulty(0, one.replace("#", "3") + other.replace("#", "0"), 4, end);
+                Check.faulty(0, one.replace("#", "0") + other.replace("#", "3"), 4, end);
+                Check.good(0, one.replace("#", "2") + other.replace("#", "0"));
+            }
+        }
         // A ROAD that another one strikes was told of.
         Check.faulty(0, "towns 4;road 0 3 1;road 3 0 2;towns 3;", 4, 38);
         // Of a SEASON no TOWN is looked for.
@@ -280,6 +290,8 @@ public final class TextBoundsTest {
         }
         Check.good(3, "worth 3 1;");
         Check.faulty(3, "worth 4 1;", 4, 10);
+        Check.faulty(3, "worth 4 1;worth 3 1;", 4, 20);
+        Check.faulty(3, "worth 3 1;worth 4 1;", 4, 20);
         // The numbers of a LEDGER are of no party.
         Check.good(2, "key 5;in 99;");
     }
