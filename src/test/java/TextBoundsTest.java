@@ -124,6 +124,9 @@ public final class TextBoundsTest {
         Check.faulty(sort, word + "s 1;", 1, 0);
         Check.faulty(sort, word.substring(1) + " 1;", 1, 0);
         Check.faulty(sort, (char) (word.charAt(0) - 32) + word.substring(1) + " 1;", 1, 0);
+        for (int i = 0; i < word.length(); i++) {
+            Check.faulty(sort, word.substring(0, i) + "q" + whole.substring(i + 1) + ";", 1, 0);
+        }
         String shorter = word.substring(0, word.length() - 1);
         Check.faulty(sort, shorter + " " + word.substring(word.length() - 1) + ";", 1, 0);
     }
