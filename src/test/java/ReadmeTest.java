@@ -70,7 +70,9 @@ public final class ReadmeTest {
         Check.due("exit code behind wrong answers", place.run(commands.replace("MonthsTest", "TapeBoundsTest")), 1);
         String line = "(?m)^.* answered -1, due is 600 \\[.*more than 600.*\\]$";
         Check.due("a wrong answer, the one due, the words", Pattern.compile(line).matcher(place.printed).find(), true);
-        Check.due("how many are wrong", Pattern.compile("(?m)^TapeBoundsTest: .* [1-9]\\d* wrong$").matcher(place.printed).find(), true);
+        Matcher end = Pattern.compile("(?m)^TapeBoundsTest: \\d+ answers, (\\d+) wrong$").matcher(place.printed);
+        int wrong = end.find() ? Integer.parseInt(end.group(1)) : 0;
+        Check.due("wrong answers printed, of " + wrong, place.printed.split(" answered ", -1).length - 1, Math.min(50, wrong));
     }
 
     private static void everyMethodOnce(String readme) {
@@ -92,15 +94,14 @@ public final class ReadmeTest {
         Check.due("methods in README.md: " + told, told.equals(there), true);
     }
 
+    /** Of the project alone: a checkout need not see the documents that it is built by. */
     private static void namesOfFiles(String readme) {
-        Matcher name = Pattern.compile("`((?:src|\\.ci|\\.\\./shared)/[\\w/.]+)`").matcher(readme);
+        Matcher name = Pattern.compile("`((?:src|\\.ci)/[\\w/.]+)`").matcher(readme);
         int found = 0;
         while (name.find()) {
             found++;
-            String shared = System.getenv("SHARED");
-            String file = shared == null ? name.group(1) : name.group(1).replace("../shared", shared);
-            Check.due(name.group(1) + " is there", Files.exists(Path.of(file)), true);
+            Check.due(name.group(1) + " is there", Files.exists(Path.of(name.group(1))), true);
         }
-        Check.due("names of files are found", found >= 4, true);
+        Check.due("names of files are found", found >= 2, true);
     }
 }
